@@ -109,13 +109,18 @@ public final class PromiseTest {
             due("1 run", x.run(what), NONE);
         }
         due("1 player", askPlayer(0, 0, 9), OUT_OF_BOUNDS);
-        due("1 point", x.point(0), NONE);
-        due("1 undo", x.undo(), NONE);
         due("1 stand", x.stand(0, 1, 1, 1), false);
         due("1 worth", x.worth(1), -2000000);
-        due("1 named", x.named(0, 1), NONE);
-        due("1 saddle", x.saddle(), NONE);
-        due("1 length", x.length(), NONE);
+        int[] all = {x.on(0, 1), x.lineUp(0, 1), x.point(0), x.sub(0, 0, 6), x.move(0, 5), x.standing(0, 1, 0),
+            x.wrong(0, 0), x.undo(), x.chance(), x.chanceAt(0, 0, 0), x.value(), x.valueAt(0, 0, 0, 0, 0),
+            x.table(0, 0), x.safe(0, 0), x.saddle(), x.reply(0, 0), x.ifSub(0, 0, 6), x.bestSub(0, 0),
+            x.bestMove(0, 0), x.likely(0, 0), x.ends(0, 0), x.length(), x.streak(0, 0), x.weak(0, 0),
+            x.ifSwapped(0, 1, 2), x.strength(0, 0), x.together(0, 0, 1, 0), x.strong(0, 0), x.maySub(0, 0, 6),
+            x.mayMove(0, 5), x.subsNow(0), x.bestSwap(0, 0), x.ranked(0, 0), x.named(0, 1), x.was(0, 0),
+            x.till(0, 0, 1)};
+        for (int k = 0; k < all.length; k++) {
+            due("1 nobody plays, call " + k, all[k], NONE);
+        }
     }
 
     // 2
@@ -786,6 +791,14 @@ public final class PromiseTest {
         due("24 theirs turn", x.worth(1), now - x.value());
         x.point(0);
         due("24 over", x.worth(0), -2000000);
+        begin("points 3;edge 50;first theirs;" + OURS + THEIRS + STARTS);
+        x.point(1);
+        x.point(1);
+        // 0 to 2, m serves; behind a point of ours b serves at 1 to 2
+        due("24 ours turn", x.worth(0), x.valueAt(1, 2, 1, 0, 0) - x.value());
+        x.point(0);
+        due("24 ours serve on", x.worth(0), x.valueAt(2, 2, 0, 0, 0) - x.value());
+        due("24 a hand's worth", x.value(), 500 * (500 * 1000 / 1000));
     }
 
     // 25, 26
@@ -816,6 +829,13 @@ public final class PromiseTest {
         due("26 side", x.bestSub(2, 0), NONE);
         x.sub(0, 0, 7);
         due("26 behind it", x.bestSub(0, 1), 6);
+        x.undo();
+        due("26 undone", x.bestSub(0, 1), 7);
+        x.sub(1, 1, 6);
+        due("26 behind it theirs", x.bestSub(1, 0), 6);
+        x.undo();
+        due("26 undone theirs", x.bestSub(1, 0), 1);
+        x.sub(0, 0, 7);
         due("25 -6", x.ifSub(0, 7, 6), -6);
         x.sub(0, 7, 0);
         due("25 -3", x.ifSub(0, 1, 6), -3);
@@ -831,6 +851,10 @@ public final class PromiseTest {
                 + "ours y 1 1 1;ours z 1 1 1;" + THEIRS + "start ours f e d c b a;start theirs m n o p q r;");
         due("26 of like ones the first who goes", x.bestSub(0, 0), 0);
         due("26 of like ones the first who comes", x.bestSub(0, 1), 6);
+        int theirs = x.bestSub(1, 2);
+        Tape.tell(x, "points 3;subs 0;" + OURS + THEIRS + STARTS);
+        due("26 anew", x.bestSub(0, 0), -2);
+        due("26 anew theirs", x.bestSub(1, 2) != theirs, true);
     }
 
     // 27
@@ -885,6 +909,10 @@ public final class PromiseTest {
         due("29 ours", x.ends(0, 2), 422 * 578);
         due("29 theirs", x.ends(1, 2), 422 * 422);
         due("29 theirs", x.ends(1, 1), 0);
+        CourtSix fresh = new CourtSix();
+        Tape.tell(fresh, "points 3;edge 50;" + OURS + THEIRS + STARTS);
+        due("29 to nothing", fresh.ends(0, 0), 490 * 490 * 490 / 1000);
+        due("29 to nothing", fresh.ends(1, 0), 510 * 422 * 422 / 1000);
         due("29 n", x.ends(0, 3), NONE);
         due("29 n", x.ends(0, -1), NONE);
         due("29 side", x.ends(2, 0), NONE);
@@ -905,6 +933,9 @@ public final class PromiseTest {
         due("31 the others", x.streak(1, 1), 510000);
         due("31 the others turn", x.streak(1, 2), 510 * 422);
         due("31 downwards", x.streak(1, 3), 510L * 422 * 422 / 1000);
+        x.point(1);
+        due("31 ours turn", x.streak(0, 2), 578 * 500);
+        x.undo();
         due("31 all", x.streak(0, 5) >= 0, true);
         due("31 beyond", x.streak(0, 6), NONE);
         due("31 below", x.streak(0, -1), NONE);
@@ -989,7 +1020,9 @@ public final class PromiseTest {
         due("40 what", x.bestSwap(0, -1), NONE);
         due("40 side", x.bestSwap(2, 0), NONE);
         Tape.tell(x, SMALL);
-        due("40 anew", x.bestSwap(0, 2), x.ifSwapped(0, x.bestSwap(0, 0), x.bestSwap(0, 1)));
+        for (int side = 0; side < 2; side++) {
+            due("40 anew", x.bestSwap(side, 2), x.ifSwapped(side, x.bestSwap(side, 0), x.bestSwap(side, 1)));
+        }
     }
 
     // 34
@@ -1154,6 +1187,18 @@ public final class PromiseTest {
         due("44 undone", x.was(3, 0), -2);
         x.point(1);
         due("44 another one", x.was(3, 0), 1);
+        begin(OURS + THEIRS + STARTS);
+        for (int k = 0; k < 49; k++) {
+            x.point(k % 2);
+        }
+        due("44 the longest set", x.now(8), 49);
+        due("44 the last", x.was(48, 0), 0);
+        due("44 who served the last: 24 turns", x.was(48, 2), 0);
+        due("44 which one served it", x.was(48, 1), 1);
+        due("44 the last but one", x.was(47, 1), 0);
+        due("44 no more", x.was(49, 0), -2);
+        due("43 a run of each first point", x.run(2), 1);
+        due("8 over", x.point(0), -2);
     }
 
     // 45
