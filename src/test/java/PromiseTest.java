@@ -1,22 +1,12 @@
-import java.util.NoSuchElementException;
-
 /** Promise by promise: answers worked out by hand, the edges, wrong inputs. */
-public final class PromiseTest {
-    private static final int NONE = -1;
-    private static final long OUT_OF_BOUNDS = -1001;
-    private static final long NO_ELEMENT = -1002;
-
+public final class PromiseTest extends Sheet {
     private static final String OURS = "ours a 10 1 2;ours b 20 3 4;ours c 30 5 6;ours d 40 7 8;ours e 50 9 10;"
             + "ours f 60 11 12;ours g 70 13 14;ours h 80 15 16;ours i 5 0 90;free i;";
     private static final String THEIRS = "theirs m 1 2 1;theirs n 2 2 1;theirs o 3 2 1;theirs p 4 2 1;"
             + "theirs q 5 2 1;theirs r 6 2 1;theirs s 7 50 50;";
-    private static final String STARTS = "start ours a b c d e f;start theirs m n o p q r;";
     /** CHANCE at first: ours 500 + 10 + 15 + 24 - 6 - 3 - 50 = 490, theirs 500 + 1 + 9 - 39 - 50 = 421. */
     private static final String SMALL = "points 5;subs 3;edge 50;" + OURS + THEIRS + STARTS;
     private static final int SMALL_LINES = 22;
-
-    private final Check check = new Check();
-    private CourtSix x;
 
     public static void main(String[] args) {
         PromiseTest test = new PromiseTest();
@@ -65,29 +55,6 @@ public final class PromiseTest {
         test.count();
         test.askingChangesNothing();
         test.check.end();
-    }
-
-    private void due(String call, long got, long want) {
-        check.due(call, got, want);
-    }
-
-    private void due(String call, boolean got, boolean want) {
-        check.due(call, got, want);
-    }
-
-    private void begin(String text) {
-        x = new CourtSix();
-        due("text that must be sound: " + text, Tape.tell(x, text) > 0, true);
-    }
-
-    private long askPlayer(int side, int p, int what) {
-        try {
-            return x.player(side, p, what);
-        } catch (IndexOutOfBoundsException e) {
-            return OUT_OF_BOUNDS;
-        } catch (NoSuchElementException e) {
-            return NO_ELEMENT;
-        }
     }
 
     private void faultDue(String text, int kind, int place) {
