@@ -127,6 +127,18 @@ public final class CourtEdgesTest extends Sheet {
         play("1");
         due("24 to 25, one more is enough", x.now(3), 1);
         due("points in all", x.now(8), 49);
+        // Theirs had the first and the last, each SIDE turned 24 times ahead of the last one: 0 serves it.
+        dueEach("the last of 49", new int[] {x.was(48, 0), x.was(48, 1), x.was(48, 2)}, 1, 0, 0);
+        dueEach("the last but one", new int[] {x.was(47, 0), x.was(47, 1), x.was(47, 2)}, 0, 1, 0);
+        due("no more", x.was(49, 0), -2);
+        due("nobody had a point as he served", x.run(2), 0);
+        begin(BLANK);
+        for (int k = 0; k < 24; k++) {
+            play("10");
+        }
+        play("0");
+        dueEach("25 to 24, the last is a run", new int[] {x.run(0), x.run(2), x.run(3), x.run(4)}, 1, 1, 0, 0);
+        due("points as he served", askPlayer(0, 0, 7), 1);
     }
 
     private void pointRefused() {
@@ -943,6 +955,9 @@ public final class CourtEdgesTest extends Sheet {
             got[k] = x.ranked(0, k);
         }
         dueEach("ranked", got, 5, 1, 2, 3, 4, 0, 6, -2);
+        begin(alike("ours", "abcdefghijkl", "0 0 0") + alike("theirs", "mnopqr", "0 0 0") + STARTS);
+        due("the last of twelve", x.ranked(0, 11), 11);
+        due("no more than twelve", x.ranked(0, 12), -2);
         says("-2: there are not so many; NONE: no such ones");
         due("theirs' last", x.ranked(1, 5), 5);
         due("theirs have six", x.ranked(1, 6), -2);

@@ -33,6 +33,10 @@ public final class OddsEdgesTest extends Sheet {
     private static final String[] GOOD_ORDER = {"90 0 50", "30 50 0", "90 90 0", "30 50 0", "90 0 50", "0 30 90"};
     private static final String[] BAD_ORDER = {"0 90 0", "50 0 30", "50 50 0", "0 0 0", "90 50 90", "50 0 50"};
 
+    private static final String LAST_SPOT = "points 3;"
+            + squad("ours", "abcdef", "50 0 30", "0 0 90", "90 50 90", "90 90 50", "0 0 0", "0 30 0")
+            + squad("theirs", "mnopqr", "50 0 50", "0 90 90", "30 90 30", "0 30 50", "0 50 90", "50 0 0") + STARTS;
+
     public static void main(String[] args) {
         OddsEdgesTest test = new OddsEdgesTest();
         test.chanceOfAll();
@@ -78,6 +82,7 @@ public final class OddsEdgesTest extends Sheet {
         test.ifSwapped();
         test.bestSwap();
         test.bestSwapOfSeveral();
+        test.allAnew();
         test.check.end();
     }
 
@@ -145,6 +150,14 @@ public final class OddsEdgesTest extends Sheet {
         due("70 for 3, no SERVE", x.chance(), 353 + 3 - 70);
         play("0");
         due("on 6, b serves", x.chance(), 500 + 22 + 28 + (5 + 70 + 17) - 100);
+        says("less BACK of the other's REAR, the FREE of the other SIDE among them");
+        begin("points 5;" + alike("ours", "abcdefi", "0 0 0") + "free i;"
+                + squad("theirs", "mnopqru", "9 2 3", "9 2 4", "9 2 5", "9 2 6", "9 2 7", "9 2 8", "90 80 70") + "free u;" + STARTS);
+        due("without him", x.chance(), 400 - 6 - (3 + 8 + 7));
+        x.move(1, 6);
+        due("70 for 8", x.chance(), 400 - 6 - (3 + 70 + 7));
+        due("strength of theirs", x.strength(1, 1), 3 + 70 + 7);
+        due("strength of ours", x.strength(0, 1), 0);
     }
 
     private void chanceRefused() {
@@ -235,6 +248,15 @@ public final class OddsEdgesTest extends Sheet {
         due("1 to 2", x.valueAt(1, 2, 0, 0, 1), 525 * 475);
         // 475 times 750625 and 525 times 249375 are 356546875 and 130921875
         due("1 to 1", x.valueAt(1, 1, 0, 0, 0), 487468);
+        // 475 three times: 107171875; nothing comes of an end that theirs have
+        due("0 to 2", x.valueAt(0, 2, 0, 0, 0), 107171);
+        says("downwards, at each points");
+        begin("edge 0;" + BLANK);
+        due("even chances", x.value(), 499990);
+        begin("edge 100;" + BLANK);
+        due("400", x.value(), 488285);
+        begin("edge 100;first theirs;" + BLANK);
+        due("400 of theirs", x.value(), 511682);
     }
 
     private void valueWithoutTheFree() {
@@ -360,6 +382,11 @@ public final class OddsEdgesTest extends Sheet {
         due("ours turn", x.worth(0), 540000 - 259200);
         due("theirs have it then", x.worth(1), -259200);
         begin(BY_SERVE);
+        play("110");
+        // b serves at 1 to 2: 540 of 540000
+        due("ours serve on", x.worth(0), 540000 - 291600);
+        due("theirs have it then", x.worth(1), -291600);
+        begin(BY_SERVE);
         play("100");
         // b serves at 2 to 1: 540 of all, 460 of what o leaves, 470000
         due("ours have it then", x.worth(0), 1000000 - 756200);
@@ -431,6 +458,12 @@ public final class OddsEdgesTest extends Sheet {
         dueEach("even the least bad one", bestSub(0), 6, 2, 599000);
         x.undo();
         dueEach("undone", bestSub(0), 2, 6, 619000);
+        // b's place is h's: 599; o p q are at the net, r and m behind
+        dueEach("theirs", bestSub(1), 0, 7, 579000);
+        x.sub(1, 0, 7);
+        dueEach("theirs behind it", bestSub(1), 2, 6, 559000);
+        x.undo();
+        dueEach("theirs undone", bestSub(1), 0, 7, 579000);
         play("1");
         due("over", x.bestSub(0, 0), -2);
         says("bestSub NONE: no such ones");
@@ -487,6 +520,10 @@ public final class OddsEdgesTest extends Sheet {
         begin(FREE_AMONG.replace("ours i 0 0 50", "ours i 0 0 0") + "first theirs;");
         dueEach("the least bad one", new int[] {x.bestMove(0, 0), x.bestMove(0, 1)}, 6, 400 - 60 + 10);
         due("nobody moved", x.on(0, 6), 5);
+        begin(FREE_AMONG.replace("theirs n 0 0 0", "theirs n 7 9 0"));
+        due("against theirs as they stand", x.bestMove(0, 1), 400 + 60 + 40 - 9);
+        play("1");
+        due("against theirs as they stand", x.bestMove(0, 1), 400 + 7 - 60 - 40);
     }
 
     private void bestMoveOfSeveral() {
@@ -609,6 +646,12 @@ public final class OddsEdgesTest extends Sheet {
         play("1");
         dueEach("ours, b behind the first", new int[] {x.streak(0, 1), x.streak(0, 2)}, 480000, 480 * 540);
         due("theirs, n", x.streak(1, 2), 520 * 520);
+        begin(ALTERNATE);
+        // a loses by 1000 less 430; n serves then, NET 40 against 100
+        due("theirs turn, ours do not", x.streak(1, 2), 570 * 340);
+        begin(ALTERNATE + "first theirs;");
+        // m loses by 1000 less 378; b serves then, NET 50 against 70
+        due("ours turn, theirs do not", x.streak(0, 2), 622 * 389);
         says("LINE-UPS");
         begin(WITH_FREE);
         x.move(0, 5);
@@ -707,6 +750,9 @@ public final class OddsEdgesTest extends Sheet {
         dueEach("ours", bestSwap(0), 1, 5, 793592);
         play("000");
         dueEach("of the start, OVER, too", bestSwap(1), 1, 4, 643953);
+        begin(LAST_SPOT);
+        dueEach("ours, with the last SPOT", bestSwap(0), 2, 6, 424579);
+        dueEach("theirs, with the last SPOT", bestSwap(1), 5, 6, 283203);
         says("bestSwap NONE: no such ones");
         dueEach("bestSwap", new int[] {x.bestSwap(2, 0), x.bestSwap(-1, 0), x.bestSwap(0, 3), x.bestSwap(1, -1)},
                 NONE, NONE, NONE, NONE);
@@ -724,5 +770,30 @@ public final class OddsEdgesTest extends Sheet {
         begin("points 3;edge 0;" + BLANK);
         dueEach("all alike", bestSwap(0), 1, 2, 500000);
         dueEach("all alike", bestSwap(1), 1, 2, 500000);
+    }
+    /** Three texts one behind another on one object: nothing of one may be told of the next. */
+    private void allAnew() {
+        says("are the TEXT (all anew, 0 to 0, nothing to undo)");
+        begin(WITH_FREE);
+        due("a FREE", askPlayer(0, 6, 3), 1);
+        due("bestMove", x.bestMove(0, 0), 5);
+        due("LOPSIDED", Tape.tell(x, LOPSIDED), 17);
+        due("table", x.table(2, 3), 933382);
+        dueEach("safe", new int[] {x.safe(0, 0), x.safe(1, 0)}, 1, 5);
+        dueEach("bestSub", new int[] {x.bestSub(0, 0), x.bestSub(1, 0)}, -2, -2);
+        due("bestSwap of ours", x.bestSwap(0, 2) >= 0, true);
+        due("bestSwap of theirs", x.bestSwap(1, 2) >= 0, true);
+        due("BY_SERVE", Tape.tell(x, BY_SERVE), 20);
+        due("no FREE", askPlayer(0, 6, 3), 0);
+        due("no FREE", x.move(0, 5), -3);
+        due("edge 0", x.chance(), 530);
+        dueEach("bestSub", new int[] {x.bestSub(0, 0) >= 0 ? 1 : 0, x.bestSub(1, 0) >= 0 ? 1 : 0}, 1, 1);
+        due("LAST_SPOT", Tape.tell(x, LAST_SPOT), 15);
+        dueEach("bestSwap of ours", bestSwap(0), 2, 6, 424579);
+        dueEach("bestSwap of theirs", bestSwap(1), 5, 6, 283203);
+        dueEach("bestSub", new int[] {x.bestSub(0, 0), x.bestSub(1, 0)}, -2, -2);
+        due("TWICE_THREE", Tape.tell(x, TWICE_THREE), 15);
+        due("table", x.table(1, 2), 789667);
+        dueEach("safe", new int[] {x.safe(0, 0), x.safe(1, 0)}, 1, 2);
     }
 }

@@ -42,6 +42,7 @@ public final class TextEdgesTest extends Sheet {
         test.feedHighestFirst();
         test.feedToNineHundred();
         test.textOfSoManyBytes();
+        test.textEndsWithNBytes();
         test.textOfTooManyBytes();
         test.textAnew();
         test.textWithAFault();
@@ -532,6 +533,27 @@ public final class TextEdgesTest extends Sheet {
         due("too short", x.text(9), NONE);
         due("its place", x.fault(1), 9);
         due("a FAULT empties it too", x.count(7), 0);
+    }
+
+    private void textEndsWithNBytes() {
+        says("The TAPE's first n bytes are the TEXT");
+        x = new CourtSix();
+        Tape.feed(x, "subss");
+        due("subs", x.text(4), NONE);
+        dueEach("a number must come", new int[] {x.fault(0), x.fault(1)}, 1, 4);
+        Tape.feed(x, "points 255;");
+        due("points 25", x.text(9), NONE);
+        dueEach("a ; must come", new int[] {x.fault(0), x.fault(1)}, 1, 9);
+        Tape.feed(x, "points 3; ;");
+        due("points 3; and a blank", x.text(10), NONE);
+        dueEach("starts must come", new int[] {x.fault(0), x.fault(1)}, 4, 10);
+        for (String last : new String[] {"points", "points 3", "subs 3;points 3;", " "}) {
+            x = new CourtSix();
+            Tape.feed(x, " ".repeat(900 - last.length()) + last);
+            due("900 bytes that end with " + last, x.text(900), NONE);
+            boolean whole = last.endsWith(";") || last.endsWith(" ");
+            dueEach("its end", new int[] {x.fault(0), x.fault(1)}, whole ? 4 : 1, 900);
+        }
     }
 
     private void textOfTooManyBytes() {
