@@ -586,6 +586,7 @@ public final class CourtEdgesTest extends Sheet {
         due("k below", x.wrong(0, -1), NONE);
         due("k far below", x.wrong(0, Integer.MIN_VALUE), NONE);
         due("side 2", x.wrong(2, 0), NONE);
+        due("NONE goes first", x.wrong(2, 9), NONE);
         due("side -1", x.wrong(-1, 0), NONE);
     }
 
@@ -962,7 +963,8 @@ public final class CourtEdgesTest extends Sheet {
         due("theirs' last", x.ranked(1, 5), 5);
         due("theirs have six", x.ranked(1, 6), -2);
         due("far beyond", x.ranked(1, Integer.MAX_VALUE), -2);
-        dueEach("no such ones", new int[] {x.ranked(0, -1), x.ranked(2, 0), x.ranked(-1, 0)}, NONE, NONE, NONE);
+        dueEach("no such ones", new int[] {x.ranked(0, -1), x.ranked(2, 0), x.ranked(-1, 0), x.ranked(2, 99)},
+                NONE, NONE, NONE, NONE);
     }
 
     private void runNow() {

@@ -44,6 +44,7 @@ public final class OddsEdgesTest extends Sheet {
         test.chanceNineHundredFiftyAtMost();
         test.chanceWithTheFree();
         test.chanceRefused();
+        test.lineUpsWithoutTheFree();
         test.chanceAt();
         test.chanceAtRefused();
         test.valueOfAnEnd();
@@ -158,6 +159,28 @@ public final class OddsEdgesTest extends Sheet {
         due("70 for 8", x.chance(), 400 - 6 - (3 + 70 + 7));
         due("strength of theirs", x.strength(1, 1), 3 + 70 + 7);
         due("strength of ours", x.strength(0, 1), 0);
+    }
+
+    /** At 4 to 4 of 5 points CHANCE of LINE-UPS is all that counts: with the FREE on 6 or 5 it would be another one. */
+    private void lineUpsWithoutTheFree() {
+        says("LINE-UP of a SIDE: its six, the FREE aside: for him the one for whom he stands");
+        begin(WITH_FREE);
+        play("00001111");
+        x.move(0, 6);
+        due("chance with him", x.chance(), 353 + 17 - 70);
+        dueEach("weak by 0 turns", new int[] {x.weak(0, 0), x.weak(0, 1)}, 0, 353);
+        due("worth", x.worth(0), 353000);
+        dueEach("likely, ends", new int[] {x.likely(4, 5), x.ends(0, 4)}, 353000, 647000);
+        due("streak", x.streak(1, 1), 353000);
+        due("valueAt", x.valueAt(4, 4, 0, 0, 1), 647000);
+        // SERVE, NET, BACK by TURNS 0 .. 5: 21 14 33, 22 28 25, 23 56 15, 24 49 23, 25 35 31, 26 7 41
+        dueEach("strong by 3 turns", new int[] {x.strong(0, 0), x.strong(0, 1)}, 3, 400 + 24 + 49 + 23);
+        begin("points 3;edge 0;" + alike("ours", "abcdefi", "0 0 0") + "free i;"
+                + alike("theirs", "mnopqru", "0 0 0").replace("theirs u 0 0 0", "theirs u 0 0 99") + "free u;" + STARTS);
+        x.move(1, 5);
+        dueEach("strong of ours", new int[] {x.strong(0, 1), x.chance()}, 500, 401);
+        dueEach("weak of theirs", new int[] {x.weak(1, 0), x.weak(1, 1)}, 0, 500);
+        due("length", x.length(), 412);
     }
 
     private void chanceRefused() {
@@ -295,6 +318,14 @@ public final class OddsEdgesTest extends Sheet {
                 due("table(" + r + ", " + s + ")", x.table(r, s), LOPSIDED_TABLE[r][s]);
             }
         }
+        // The same ones on the same SPOTS, told in another order: numbers are no SPOTS.
+        begin("points 3;edge 300;first theirs;"
+                + squad("ours", "fedcba", "0 99 50", "0 99 0", "0 99 0", "0 0 99", "0 0 0", "0 99 50")
+                + squad("theirs", "nmporq", "50 99 0", "0 0 99", "99 0 0", "50 90 0", "0 0 90", "0 0 0") + STARTS);
+        for (int r = 0; r < 6; r++) {
+            due("table(" + r + ", 1)", x.table(r, 1), LOPSIDED_TABLE[r][1]);
+        }
+        due("value", x.value(), LOPSIDED_TABLE[0][0]);
         begin(LOPSIDED.replace("first theirs;", ""));
         due("ours serve first", x.table(0, 0), 437062);
         due("ours serve first", x.table(5, 5), 123195);
@@ -731,6 +762,10 @@ public final class OddsEdgesTest extends Sheet {
         dueEach("ours", new int[] {x.ifSwapped(0, 1, 5), x.ifSwapped(0, 3, 4), x.ifSwapped(0, 4, 3), x.ifSwapped(0, 5, 6),
             x.ifSwapped(0, 1, 6)}, 793592, 791899, 791899, 788683, 748361);
         dueEach("theirs", new int[] {x.ifSwapped(1, 1, 2), x.ifSwapped(1, 6, 5), x.ifSwapped(1, 1, 4)}, 754351, 800220, 643953);
+        begin("points 3;" + squad("ours", "fedcba", "0 30 90", "90 0 50", "30 50 0", "90 90 0", "30 50 0", "90 0 50")
+                + squad("theirs", "nmporq", "50 0 30", "0 90 0", "0 0 0", "50 50 0", "50 0 50", "90 50 90") + STARTS);
+        dueEach("told in another order", new int[] {x.table(0, 0), x.ifSwapped(0, 3, 4), x.ifSwapped(1, 1, 4)},
+                793592, 791899, 643953);
         play("01");
         due("of the start", x.ifSwapped(0, 3, 4), 791899);
         due("nothing is changed", x.table(0, 0), 793592);
