@@ -285,9 +285,9 @@ public final class OddsEdgesTest extends Sheet {
     private void valueWithoutTheFree() {
         says("by CHANCE c (of LINE-UPS, no FREE)");
         begin(WITH_FREE);
-        int before = x.value();
+        due("value", x.value(), 642875);
         x.move(0, 5);
-        due("value", x.value(), before);
+        due("value", x.value(), 642875);
         due("the last point", x.valueAt(4, 4, 0, 0, 0), 468000);
         play("1111");
         x.move(0, 0);
@@ -297,7 +297,8 @@ public final class OddsEdgesTest extends Sheet {
     private void valueAtRefused() {
         says("points a, b (0 to as many as points, not both so many); NONE: no such ones");
         begin(BY_SERVE);
-        due("0, 0 is one", x.valueAt(0, 0, 0, 0, 0), x.value());
+        due("0, 0 is one", x.valueAt(0, 0, 0, 0, 0), 522350);
+        due("and now", x.value(), 522350);
         dueEach("a, b", new int[] {x.valueAt(3, 3, 0, 0, 0), x.valueAt(4, 0, 0, 0, 0), x.valueAt(0, 4, 0, 0, 0),
             x.valueAt(-1, 0, 0, 0, 0), x.valueAt(0, -1, 0, 0, 0), x.valueAt(3, 4, 0, 0, 0), x.valueAt(-1, 3, 0, 0, 0)},
                 NONE, NONE, NONE, NONE, NONE, NONE, NONE);
@@ -696,7 +697,7 @@ public final class OddsEdgesTest extends Sheet {
         due("four", x.streak(0, 4), NONE);
         due("four", x.streak(1, 4), NONE);
         play("01");
-        due("ours need two", x.streak(0, 2) > 0, true);
+        due("ours need two, n serves", x.streak(0, 2), 480 * 540);
         due("not three", x.streak(0, 3), NONE);
         play("1");
         due("theirs need one", x.streak(1, 1), 520000);

@@ -454,7 +454,7 @@ public final class TextEdgesTest extends Sheet {
         due("a fault at the end", Tape.tell(x, SIDES + "start ours a b c d e f;start theirs m n o p q m;"), NONE);
         askWithoutAText();
         due("a sound one", Tape.tell(x, BLANK), BLANK_LINES);
-        due("they play", x.value(), x.valueAt(0, 0, 0, 0, 0));
+        due("they play", x.value(), 488285);
     }
 
     private void askWithoutAText() {
@@ -604,14 +604,14 @@ public final class TextEdgesTest extends Sheet {
         begin("points 4;subs 2;edge 0;first theirs;" + BLANK);
         play("01");
         x.sub(0, 1, 6);
-        int table = x.table(1, 2);
+        due("even chances", x.table(1, 2), 500000);
         due("a fault", Tape.tell(x, "points 9;subs 9;edge 9;first ours;" + BLANK.replace("start theirs m", "start theirs u")), NONE);
         due("its number", x.fault(0), 3);
         dueEach("now", new int[] {x.now(0), x.now(1), x.now(2), x.now(3), x.now(4), x.now(5), x.now(6), x.now(7), x.now(8)},
                 1, 1, 1, 0, 1, 2, 1, 1, 2);
         dueEach("told", new int[] {x.count(0), x.count(1), x.count(2), x.count(3), x.count(4), x.count(5), x.count(6)},
                 BLANK_LINES + 4, 4, 2, 0, 9, 9, 3);
-        due("table", x.table(1, 2), table);
+        due("table", x.table(1, 2), 500000);
         due("still there", x.on(0, 1), 6);
         due("the point", x.was(1, 0), 1);
         due("undo", x.undo(), 2);
